@@ -507,7 +507,8 @@ public final class GuessingHall {
 
         int letterSet(int word) {
             int set = 0;
-            for (int place = 0; place < length.at(word); place++) {
+            int letterCount = length.at(word);
+            for (int place = 0; place < letterCount; place++) {
                 set |= 1 << letterAt(word, place);
             }
             return set;
@@ -515,7 +516,8 @@ public final class GuessingHall {
 
         int placesOf(int word, int letter) {
             int places = 0;
-            for (int place = 0; place < length.at(word); place++) {
+            int letterCount = length.at(word);
+            for (int place = 0; place < letterCount; place++) {
                 if (letterAt(word, place) == letter) {
                     places |= 1 << place;
                 }
@@ -524,10 +526,11 @@ public final class GuessingHall {
         }
 
         boolean areSame(int one, int other) {
-            if (length.at(one) != length.at(other)) {
+            int letterCount = length.at(one);
+            if (length.at(other) != letterCount) {
                 return false;
             }
-            for (int place = 0; place < length.at(one); place++) {
+            for (int place = 0; place < letterCount; place++) {
                 if (letterAt(one, place) != letterAt(other, place)) {
                     return false;
                 }
@@ -574,10 +577,11 @@ public final class GuessingHall {
 
         /** A place of the hidden word is open just if its letter is guessed. */
         private boolean looksLike(int word, int hidden, int guessed) {
-            if (length.at(word) != length.at(hidden)) {
+            int letterCount = length.at(hidden);
+            if (length.at(word) != letterCount) {
                 return false;
             }
-            for (int place = 0; place < length.at(hidden); place++) {
+            for (int place = 0; place < letterCount; place++) {
                 int due = letterAt(hidden, place);
                 int letter = letterAt(word, place);
                 boolean agrees = holds(guessed, due) ? letter == due : !holds(guessed, letter);
@@ -855,7 +859,8 @@ public final class GuessingHall {
 
         int openPlaces() {
             int places = 0;
-            for (int place = 0; place < words.length.at(round.word); place++) {
+            int letterCount = words.length.at(round.word);
+            for (int place = 0; place < letterCount; place++) {
                 if (holds(round.guessed, words.letterAt(round.word, place))) {
                     places++;
                 }

@@ -104,6 +104,7 @@ public final class WordsAndPlayersTest {
         Checks.due("playerOf(2, 0)", hall.playerOf(2, 0), 1002);
         Checks.due("lend(2, 0, 999)", hall.lend(2, 0, 999), 3);
         Checks.due("playerOf(0, 0)", hall.playerOf(0, 0), 999);
+        Checks.due("lend(0, 1, 1)", hall.lend(0, 1, 1), 998);
         Checks.refused("lend(0, 0, 1)", Checks.INVALID, WordsAndPlayersTest::ready, x -> x.lend(0, 0, 1));
         Checks.refused("lend(0, 1, 0)", Checks.INVALID, WordsAndPlayersTest::ready, x -> x.lend(0, 1, 0));
         Checks.refused("lend(2, 1, 1000)", Checks.INVALID, WordsAndPlayersTest::ready, x -> x.lend(2, 1, 1000));
