@@ -20,15 +20,25 @@ final class Checks {
 
     private static int wrong = 0;
     private static int checked = 0;
+    private static String about = "";
 
     private Checks() {
+    }
+
+    /** What the answers are due to from now on; it is told of each that is wrong. */
+    static void about(String words) {
+        about = words;
+    }
+
+    static int checkedSoFar() {
+        return checked;
     }
 
     static void due(String what, long got, long want) {
         checked++;
         if (got != want) {
             wrong++;
-            System.out.println(what + " answered " + got + ", due is " + want);
+            System.out.println(about + what + " answered " + got + ", due is " + want);
         }
     }
 
@@ -55,6 +65,21 @@ final class Checks {
         for (int index = 0; index < text.length(); index++) {
             hall.type(text.charAt(index));
         }
+    }
+
+    /** A list of so many words of two letters ("ax", "bx" and so on), all of this weight. */
+    static String list(int words, int weight) {
+        StringBuilder list = new StringBuilder();
+        for (int word = 0; word < words; word++) {
+            list.append((char) ('a' + word)).append("x*").append(weight).append(';');
+        }
+        return list.toString();
+    }
+
+    static GuessingHall typed(String text) {
+        GuessingHall hall = new GuessingHall();
+        type(hall, text);
+        return hall;
     }
 
     static GuessingHall hall(String list, int... purses) {

@@ -3,7 +3,7 @@ import java.util.function.Supplier;
 /** Promises 23 to 26: type, clearText, fault, read. */
 public final class TextTest {
     /** Sixteen words of five characters each. */
-    private static final String SIXTEEN = sixteen();
+    private static final String SIXTEEN = Checks.list(16, 1);
 
     public static void main(String[] args) {
         type();
@@ -20,20 +20,6 @@ public final class TextTest {
         Checks.finish();
     }
 
-    private static String sixteen() {
-        StringBuilder list = new StringBuilder();
-        for (char letter = 'a'; letter < 'a' + 16; letter++) {
-            list.append(letter).append("x*1;");
-        }
-        return list.toString();
-    }
-
-    private static GuessingHall typed(String text) {
-        GuessingHall hall = new GuessingHall();
-        Checks.type(hall, text);
-        return hall;
-    }
-
     private static void type() {
         GuessingHall hall = new GuessingHall();
         for (int length = 1; length <= 120; length++) {
@@ -43,18 +29,18 @@ public final class TextTest {
         Checks.due("type(127) of 121", hall.type(127), Checks.INVALID);
         Checks.due("count(13)", hall.count(13), 120);
         Checks.due("count(12)", hall.count(12), 0);
-        Supplier<GuessingHall> made = () -> typed("ab");
+        Supplier<GuessingHall> made = () -> Checks.typed("ab");
         Checks.refused("type(31)", Checks.INVALID, made, x -> x.type(31));
         Checks.refused("type(127)", Checks.INVALID, made, x -> x.type(127));
-        Checks.due("type(32)", typed("ab").type(32), 3);
-        Checks.due("type(126)", typed("ab").type(126), 3);
+        Checks.due("type(32)", Checks.typed("ab").type(32), 3);
+        Checks.due("type(126)", Checks.typed("ab").type(126), 3);
         for (int far : Checks.FAR) {
             Checks.due("type(" + far + ")", hall.type(far), Checks.INVALID);
         }
     }
 
     private static void clearText() {
-        GuessingHall hall = typed("ab*1;");
+        GuessingHall hall = Checks.typed("ab*1;");
         Checks.due("clearText()", hall.clearText(), 5);
         Checks.due("clearText() again", hall.clearText(), 0);
         Checks.due("count(13)", hall.count(13), 0);
@@ -64,7 +50,7 @@ public final class TextTest {
     }
 
     private static void dueFault(String text, int place, int reason) {
-        GuessingHall hall = typed(text);
+        GuessingHall hall = Checks.typed(text);
         Checks.due("fault(0) of " + text, hall.fault(0), place);
         Checks.due("fault(1) of " + text, hall.fault(1), reason);
         Checks.due("read() of " + text, hall.read(), Checks.NOT_POSSIBLE);
@@ -77,7 +63,7 @@ public final class TextTest {
             "abcdefgh*50;".repeat(1) + "bcdefghi*50;cdefghij*50;defghijk*50;efghijkl*50;fghijklm*50;ghijklmn*50;"
                 + "hijklmno*50;ijklmnop*50;jklmnopq*50;"};
         for (String text : texts) {
-            GuessingHall hall = typed(text);
+            GuessingHall hall = Checks.typed(text);
             Checks.due("fault(0) of " + text, hall.fault(0), Checks.NOT_FOUND);
             Checks.due("fault(1) of " + text, hall.fault(1), Checks.NOT_FOUND);
             Checks.due("read() of " + text, hall.read(), text.chars().filter(sign -> sign == ';').count());
@@ -149,16 +135,16 @@ public final class TextTest {
 
     private static void faultOfWhat() {
         for (String text : new String[] {"", "ab*1;", "ab"}) {
-            Checks.due("fault(2) of " + text, typed(text).fault(2), Checks.INVALID);
-            Checks.due("fault(-1) of " + text, typed(text).fault(-1), Checks.INVALID);
+            Checks.due("fault(2) of " + text, Checks.typed(text).fault(2), Checks.INVALID);
+            Checks.due("fault(-1) of " + text, Checks.typed(text).fault(-1), Checks.INVALID);
             for (int far : Checks.FAR) {
-                Checks.due("fault(" + far + ") of " + text, typed(text).fault(far), Checks.INVALID);
+                Checks.due("fault(" + far + ") of " + text, Checks.typed(text).fault(far), Checks.INVALID);
             }
         }
     }
 
     private static void read() {
-        GuessingHall hall = typed("abcdefgh*99;zy*7;");
+        GuessingHall hall = Checks.typed("abcdefgh*99;zy*7;");
         Checks.due("read()", hall.read(), 2);
         Checks.due("count(12)", hall.count(12), 1);
         Checks.due("count(13): the text stays", hall.count(13), 17);
