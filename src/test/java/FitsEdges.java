@@ -38,6 +38,11 @@ final class FitsEdges {
         dueFitting("behind a: at the first place and the last one", hall, 0b0011);
         hall.guess('c' - 'a');
         dueFitting("behind c", hall, 0b0001);
+        GuessingHall longest = Draws.round("abcdefgh*1;abcdefgi*1;ibcdefga*1;", 1, 1, 5);
+        longest.guess(0);
+        dueFitting("of eight letters behind a", longest, 0b011);
+        longest.guess('h' - 'a');
+        dueFitting("of eight letters behind h", longest, 0b010);
     }
 
     @Sentence(promise = {16, 11}, under = "Words that fit", value = "no letter that is guessed at any other place")
@@ -50,6 +55,11 @@ final class FitsEdges {
         dueFitting("behind a, which is open", hall, 0b001001);
         hall.guess(2);
         dueFitting("behind c", hall, 0b000001);
+        GuessingHall longest = Draws.round("abcdefgh*1;ibcdefgh*1;abcdefgk*1;", 0, 1, 5);
+        longest.guess('i' - 'a');
+        dueFitting("of eight letters behind i", longest, 0b101);
+        longest.guess('k' - 'a');
+        dueFitting("of eight letters behind k", longest, 0b001);
     }
 
     @Sentence(promise = {16, 17}, under = "Words that fit",

@@ -148,8 +148,17 @@ final class TextEdges {
         dueFault("abcdefgh*1;ab*1;abcdefgh*1;", 16, 3);
         dueFault(SIXTEEN.substring(0, 75) + "ax*1;", 75, 3);
         dueFault(SIXTEEN.substring(0, 75) + "ox*1;", 75, 3);
+        dueFault("abcdefgh*1;ab*1;cd*1;ab*1;", 21, 3);
+        dueFault("ab*1;abcdefgh*1;cd*1;abcdefgh*1;", 21, 3);
         dueList("abcdefgh*1;abcdefga*1;", 2);
         dueList("ab*1;bb*1;", 2);
+        GuessingHall hall = Checks.typed("abcd*1;efgh*1;");
+        hall.read();
+        Checks.type(hall, "ab*1;ab*1;");
+        Checks.due("fault(0) behind a text of longer words", hall.fault(0), 5);
+        Checks.due("fault(1) behind a text of longer words", hall.fault(1), 3);
+        Checks.type(hall, "cd*1;ab*1;");
+        Checks.due("fault(0) behind a text of the same words", hall.fault(0), Checks.NOT_FOUND);
     }
 
     @Sentence(promise = 25, under = "Texts", value = "4: the first letter of a seventeenth word")
@@ -284,6 +293,10 @@ final class TextEdges {
         Checks.due("wordOf(1, 3): never drawn, as another word", hall.wordOf(1, 3), 0);
         Checks.due("count(13): the text stays", hall.count(13), 11);
         Checks.due("read() of it once more", hall.read(), 2);
+        Draws.prepare(hall, 1);
+        hall.begin(1);
+        Checks.due("fits(0): no word that was", hall.fits(0), 0b11);
+        Checks.due("fits(2): no word that was", hall.fits(2), 106);
     }
 
     @Sentence(promise = 26, value = "(Rounds that were stay as they are, by the numbers of their words.)")
