@@ -96,6 +96,9 @@ final class FitsEdges {
         near.begin(1);
         Checks.due("letterOf(x, 1), the greatest below 1", near.letterOf('x' - 'a', 1),
             Float.floatToIntBits(1485f / 1486f));
+        GuessingHall lightest = Draws.round("ab*1;cde*9;", 0, 1, 5);
+        Checks.due("letterOf(a, 1) of a weight of 1 in all", lightest.letterOf(0, 1), ONE_AS_FLOAT);
+        Checks.due("letterOf(c, 1) of a weight of 1 in all", lightest.letterOf(2, 1), 0);
         GuessingHall thirds = Draws.round("ab*1;cd*2;efg*99;", 0, 1, 5);
         Checks.due("letterOf(a, 1): longer words do not count", thirds.letterOf(0, 1), 0x3eaaaaab);
         Checks.due("letterOf(c, 1): longer words do not count", thirds.letterOf(2, 1), 0x3f2aaaab);

@@ -280,6 +280,9 @@ final class RoundsEdges {
         poor.begin(2);
         poor.guess(25);
         Checks.due("count(9) of one more pot", poor.count(9), 2);
+        poor.begin(1);
+        poor.guess(25);
+        Checks.due("count(9) of both pots", poor.count(9), 3);
     }
 
     @Sentence(promise = {14, 12}, under = "Rounds",

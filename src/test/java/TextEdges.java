@@ -178,7 +178,10 @@ final class TextEdges {
     static void aWordAgainThatIsNotOfItsForm() {
         dueFault("ab*1;ab", 7, 1);
         dueFault("ab*1;ab*1", 9, 1);
+        dueFault("ab*1;ab;", 7, 1);
+        dueFault("ab*1;ab*;", 8, 1);
         dueFault("ab*1;ab*0;", 8, 1);
+        dueFault("ab*1;ab**1;", 8, 1);
         dueFault("ab*1;ab*1!", 9, 1);
         dueFault("ab*1;ab*100;", 10, 1);
         dueFault("abcdefgh*1;abcdefghi*1;", 19, 2);
